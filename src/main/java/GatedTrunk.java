@@ -693,6 +693,7 @@ public final class GatedTrunk {
                 int j = batch.leasedJob(w);
                 if (j != NONE && (all || batch.leaseEnds[w] == time)) {
                     batch.expireLease(j, settings.retries + 1);
+                    // Where the job only waits again there is nothing to judge, and judging changes nothing.
                     judgeBatch();
                     expired++;
                 }

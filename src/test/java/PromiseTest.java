@@ -24,11 +24,14 @@ public final class PromiseTest {
         pipelines();
         halving();
         lateConflicts();
+        emptiedNumber();
         tick();
         tickBuilds();
         events();
         flush();
         crash();
+        crashBringsBack();
+        crashBringsBackLeases();
         crashExpires();
         crashIsFlushed();
         looks();
@@ -626,6 +629,35 @@ public final class PromiseTest {
         Check.due("merged at 2", 3, y.file(-2, 2));
     }
 
+    private static void emptiedNumber() {
+        Check.part("terms: a number of the plan that conflicts empty");
+        GatedTrunk x = new GatedTrunk(0, 3, 0, 1);
+        queued(x, 1, 5);
+        run(x, 0, 0, true);
+        opened(x, 1, 7);
+        queued(x, 1, 9);
+        run(x, 0, 0, true);
+        x.enqueue(x.open());
+        opened(x, 1, 5);
+        x.enqueue(4);
+        queued(x, 2, 2);
+        x.enqueue(1);
+        run(x, 0, 0, true);
+        // Change 1 goes from 5 to 7, which only change 4 before it makes possible: the trunk has 9.
+        Check.due("batch", 3, x.batch());
+        Check.due("merged at 1", 7, x.file(-2, 1));
+        run(x, 0, 0, false);
+        run(x, 0, 0, false);
+        run(x, 0, 0, false);
+        rejected(x, 4, 10);
+        x.enqueue(x.open());
+        x.enqueue(x.open());
+        Check.due("queue", 5, x.queueAt(0));
+        run(x, 0, 0, true);
+        rejected(x, 1, 1);
+        Check.due("a new number", 2, x.batch());
+    }
+
     private static void tick() {
         Check.part("11 tick");
         GatedTrunk x = new GatedTrunk(0, 1, 1, 3);
@@ -772,6 +804,58 @@ public final class PromiseTest {
         Check.due("a refused one after sixteen", -1, z.open());
         Check.due("crash(0)", 16, z.crash(0));
         Check.due("state of 0", -1, z.state(0));
+    }
+
+    private static void crashBringsBack() {
+        Check.part("13 crash brings back");
+        GatedTrunk x = new GatedTrunk(0, 4, 1, 9);
+        x.open();
+        x.object(0, 1);
+        x.flush();
+        queued(x, 1, 5);
+        run(x, 0, 0, true);
+        x.rebase(0);
+        x.approve(0, 1);
+        Check.due("crash", 7, x.crash(0));
+        Check.due("standing", 10, x.standing(0));
+        x.push(0, 1, 3);
+        x.enqueue(0);
+        Check.due("its base is the old one again: no conflict", 1, x.state(0));
+        queued(x, 2, 1);
+        queued(x, 3, 1);
+        queued(x, 4, 1);
+        x.flush();
+        run(x, 2, 0, true);
+        Check.due("crash", 2, x.crash(0));
+        for (int k = 0; k < 4; k++) {
+            Check.due("queue at " + k, k, x.queueAt(k));
+        }
+        Check.due("batch", 1, x.batch());
+        Check.due("merged at 1", 3, x.file(-2, 1));
+        Check.due("merged at 2", 0, x.file(-2, 2));
+        run(x, 0, 0, true);
+        run(x, 0, 0, false);
+        x.flush();
+        run(x, 0, 0, true);
+        Check.due("crash", 2, x.crash(0));
+        x.enqueue(x.open());
+        Check.due("batch", 2, x.batch());
+        run(x, 0, 0, true);
+        Check.due("the plan is 1 yet", 1, x.batch());
+    }
+
+    private static void crashBringsBackLeases() {
+        Check.part("13 crash brings back the leases and the time");
+        GatedTrunk x = new GatedTrunk(0, 1, 1, 5);
+        queued(x, 1, 1);
+        x.claim(0);
+        x.flush();
+        Check.due("tick", 1, x.tick(5));
+        Check.due("claim", 0, x.claim(0));
+        x.tick(1);
+        // The tick that survives ends the first lease again, so the claim after it was the second attempt.
+        Check.due("crash", 1, x.crash(2));
+        rejected(x, 0, 10);
     }
 
     private static void crashExpires() {
