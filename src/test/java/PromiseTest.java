@@ -1,15 +1,7 @@
 /** Each promise by itself: ordinary inputs, the edges that the document names, wrong inputs. */
-public final class PromiseTest {
-    private static final int LEAST = Integer.MIN_VALUE;
-    private static final int MOST = Integer.MAX_VALUE;
-    /** Jobs 0, 1, 2 there; 2 is required; 2 needs 1, 1 needs 0. */
-    private static final int CHAIN = 0b0111 | 0b0100 << 4 | needs(2, 1) | needs(1, 0);
-    /** All four jobs there and required, none needs another. */
-    private static final int FOUR = 0b1111 | 0b1111 << 4;
-
+public final class PromiseTest extends Steps {
     public static void main(String[] args) {
         aNewObject();
-        ranges();
         open();
         push();
         approve();
@@ -38,33 +30,6 @@ public final class PromiseTest {
         Check.finish();
     }
 
-    private static int needs(int j, int k) {
-        return 1 << 8 + 4 * j + k;
-    }
-
-    /** Opens a change that sets one content. */
-    private static int opened(GatedTrunk x, int path, int content) {
-        int c = x.open();
-        Check.yes("push of a new change", x.push(c, path, content));
-        return c;
-    }
-
-    private static int queued(GatedTrunk x, int path, int content) {
-        int c = opened(x, path, content);
-        Check.yes("enqueue of a new change", x.enqueue(c));
-        return c;
-    }
-
-    private static void run(GatedTrunk x, int worker, int job, boolean passed) {
-        Check.due("claim", job, x.claim(worker));
-        Check.yes("report", x.report(worker, passed));
-    }
-
-    private static void rejected(GatedTrunk x, int c, int cause) {
-        Check.due("state of the rejected", 3, x.state(c));
-        Check.due("cause of the rejected", cause, x.cause(c));
-    }
-
     private static void aNewObject() {
         Check.part("1 a new object");
         GatedTrunk x = new GatedTrunk(1, 4, 1, 3);
@@ -80,54 +45,6 @@ public final class PromiseTest {
         Check.due("claim", -1, x.claim(0));
         Check.due("crash", 0, x.crash(0));
         Check.due("flush", 0, x.flush());
-    }
-
-    private static void ranges() {
-        Check.part("1 the ranges");
-        int[][] approvals = {{LEAST, 0}, {-1, 0}, {0, 0}, {1, 1}, {2, 2}, {3, 3}, {4, 3}, {MOST, 3}};
-        for (int[] row : approvals) {
-            GatedTrunk x = new GatedTrunk(row[0], 1, 0, 1);
-            int c = x.open();
-            for (int r = 0; r < row[1]; r++) {
-                Check.no("enqueue with " + r + " of " + row[0], x.enqueue(c));
-                x.approve(c, r);
-            }
-            Check.yes("enqueue with " + row[1] + " of " + row[0], x.enqueue(c));
-        }
-        int[][] batches = {{LEAST, 1}, {-1, 1}, {0, 1}, {1, 1}, {2, 2}, {7, 7}, {8, 8}, {9, 8}, {MOST, 8}};
-        for (int[] row : batches) {
-            GatedTrunk x = new GatedTrunk(0, row[0], 0, 1);
-            for (int c = 0; c < 11; c++) {
-                x.open();
-                x.enqueue(c);
-            }
-            run(x, 0, 0, true);
-            Check.due("batch of " + row[0], row[1], x.batch());
-        }
-        int[][] retries = {{LEAST, 0}, {-1, 0}, {0, 0}, {1, 1}, {2, 2}, {3, 2}, {MOST, 2}};
-        for (int[] row : retries) {
-            GatedTrunk x = new GatedTrunk(0, 1, row[0], 1);
-            x.enqueue(x.open());
-            for (int i = 0; i <= row[1]; i++) {
-                Check.due("state before try " + i + " of " + row[0], 1, x.state(0));
-                Check.due("claim", 0, x.claim(0));
-                Check.due("tick", 1, x.tick(1));
-            }
-            Check.due("state after the tries of " + row[0], 3, x.state(0));
-        }
-        int[][] leases = {{LEAST, 1}, {-1, 1}, {0, 1}, {1, 1}, {2, 2}, {8, 8}, {9, 9}, {10, 9}, {MOST, 9}};
-        for (int[] row : leases) {
-            GatedTrunk x = new GatedTrunk(0, 1, 2, row[0]);
-            x.tick(3);
-            x.enqueue(x.open());
-            x.claim(0);
-            for (int i = 1; i < row[1]; i++) {
-                Check.due("tick " + i + " of " + row[0], 0, x.tick(1));
-                Check.due("job", 10, x.job(0));
-            }
-            Check.due("the last tick of " + row[0], 1, x.tick(1));
-            Check.due("job", 1, x.job(0));
-        }
     }
 
     private static void open() {
@@ -537,19 +454,9 @@ public final class PromiseTest {
         }
     }
 
-    private static GatedTrunk fullQueue(int batch, int changes) {
-        GatedTrunk x = new GatedTrunk(0, batch, 0, 1);
-        x.enqueue(x.open());
-        for (int c = 1; c < changes; c++) {
-            x.open();
-            x.enqueue(c);
-        }
-        return x;
-    }
-
     private static void halving() {
         Check.part("terms: halving");
-        GatedTrunk x = fullQueue(7, 10);
+        GatedTrunk x = withQueue(7, 0, 10);
         run(x, 0, 0, true);
         int[] sizes = {7, 4, 2, 1};
         for (int size : sizes) {
@@ -566,7 +473,7 @@ public final class PromiseTest {
         Check.due("batch", 0, x.batch());
         Check.due("state of 9", 2, x.state(9));
         // The plan holds though the queue has grown: 3 is 2 and 1, then a new number.
-        GatedTrunk y = fullQueue(3, 4);
+        GatedTrunk y = withQueue(3, 0, 4);
         run(y, 0, 0, true);
         run(y, 0, 0, false);
         Check.due("batch", 2, y.batch());
