@@ -28,6 +28,7 @@ public final class ChangesEdgeTest extends Steps {
         standingsGoWithTheChange();
         rebaseOfAll();
         rebaseOfNothing();
+        rebaseOfConflicting();
         rebaseEndsStandings();
         rebaseMovesBase();
         Check.finish();
@@ -427,15 +428,37 @@ public final class ChangesEdgeTest extends Steps {
         GatedTrunk x = new GatedTrunk(0, 1, 0, 1);
         x.open();
         x.open();
+        x.push(1, 0, 49);
         for (int path = 1; path < 6; path++) {
             x.push(1, path, path);
         }
         x.enqueue(1);
         run(x, 0, 0, true);
         Check.yes("rebase", x.rebase(0));
-        treeIs(x, 0, 17, 1, 2, 3, 4, 5);
+        treeIs(x, 0, 49, 1, 2, 3, 4, 5);
         Check.yes("rebase again", x.rebase(0));
-        treeIs(x, 0, 17, 1, 2, 3, 4, 5);
+        treeIs(x, 0, 49, 1, 2, 3, 4, 5);
+    }
+
+    private static void rebaseOfConflicting() {
+        Check.part("8 rebase: refused when it conflicts with the trunk, not with another tree");
+        GatedTrunk x = new GatedTrunk(0, 2, 0, 1);
+        x.enqueue(x.open());
+        queued(x, 1, 1);
+        queued(x, 1, 2);
+        run(x, 0, 0, true);
+        // It conflicted with the batch's tree, which change 1 had made 1; the trunk has 0.
+        rejected(x, 2, 1);
+        Check.yes("rebase while the batch is under test", x.rebase(2));
+        treeIs(x, 2, 17, 2, 0, 0, 0, 0);
+        run(x, 0, 0, true);
+        Check.no("rebase when the batch passed", x.rebase(2));
+        stateIs(x, 2, 0);
+        // The trunk goes back to what base is.
+        queued(x, 1, 0);
+        run(x, 0, 0, true);
+        Check.yes("rebase when the trunk is as base again", x.rebase(2));
+        treeIs(x, 2, 17, 2, 0, 0, 0, 0);
     }
 
     private static void rebaseEndsStandings() {

@@ -19,6 +19,7 @@ public final class EventsEdgeTest extends Steps {
         surviveOfOne();
         changesComeBack();
         lostNumbersAreGivenAgain();
+        baseComesBack();
         passedBatchComesBack();
         failedBatchComesBack();
         conflictComesBack();
@@ -325,6 +326,29 @@ public final class EventsEdgeTest extends Steps {
         Check.due("open", -1, y.open());
     }
 
+    private static void baseComesBack() {
+        Check.part("13 crash: a base is as it was before a rebase that is lost");
+        GatedTrunk x = new GatedTrunk(0, 1, 0, 1);
+        opened(x, 2, 8);
+        queued(x, 1, 5);
+        run(x, 0, 0, true);
+        x.flush();
+        Check.yes("rebase", x.rebase(0));
+        treeIs(x, 0, 17, 5, 8, 0, 0, 0);
+        x.push(0, 1, 6);
+        Check.due("crash", 2, x.crash(0));
+        treeIs(x, 0, 17, 0, 8, 0, 0, 0);
+        // From 0 to 6 where the trunk has 5: it would be from 5 to 6 with the base of the rebase.
+        x.push(0, 1, 6);
+        Check.no("rebase", x.rebase(0));
+        x.push(0, 1, 0);
+        Check.yes("rebase", x.rebase(0));
+        x.push(0, 1, 6);
+        Check.due("crash with the rebase kept", 0, x.crash(16));
+        Check.yes("rebase", x.rebase(0));
+        treeIs(x, 0, 17, 6, 8, 0, 0, 0);
+    }
+
     private static void passedBatchComesBack() {
         Check.part("13 crash: a batch that passed is under test again");
         GatedTrunk x = withQueue(2, 1, 1);
@@ -538,12 +562,12 @@ public final class EventsEdgeTest extends Steps {
         x.flush();
         Check.due("tick", 0, x.tick(4));
         Check.due("tick", 1, x.tick(1));
-        Check.due("claim", 0, x.claim(3));
+        Check.due("claim by the same worker, until 10", 0, x.claim(0));
         Check.due("tick", 0, x.tick(4));
         // Two attempts: the first expired at time 5, the second by the crash.
         Check.due("crash", 1, x.crash(3));
         jobsAre(x, 1, 0, 0, 0);
-        Check.due("claim", 0, x.claim(3));
+        Check.due("claim", 0, x.claim(0));
         Check.due("the third", 1, x.tick(5));
         rejected(x, 0, 10);
     }

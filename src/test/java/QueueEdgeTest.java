@@ -204,21 +204,9 @@ public final class QueueEdgeTest extends Steps {
         queueIs(x, 5, 6);
     }
 
-    /** The trunk has 9 at path 1, a batch is under test; change 1, which is open, goes from 5 to 7 there. */
-    private static GatedTrunk fromFiveToSeven() {
-        GatedTrunk x = new GatedTrunk(0, 4, 0, 1);
-        queued(x, 1, 5);
-        run(x, 0, 0, true);
-        opened(x, 1, 7);
-        queued(x, 1, 9);
-        run(x, 0, 0, true);
-        x.enqueue(x.open());
-        return x;
-    }
-
     private static void numberOfThePlanIsZero() {
         Check.part("plan: a number in it that is 0 by conflicts leaves it");
-        GatedTrunk x = fromFiveToSeven();
+        GatedTrunk x = fromFiveToSeven(4);
         queued(x, 1, 5);
         x.enqueue(1);
         for (int c = 5; c < 8; c++) {
@@ -243,7 +231,7 @@ public final class QueueEdgeTest extends Steps {
 
     private static void numberOfThePlanIsLess() {
         Check.part("plan: a number in it that is less by conflicts");
-        GatedTrunk x = fromFiveToSeven();
+        GatedTrunk x = fromFiveToSeven(4);
         queued(x, 1, 5);
         x.enqueue(x.open());
         x.enqueue(1);

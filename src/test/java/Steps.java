@@ -41,6 +41,18 @@ abstract class Steps {
         return x;
     }
 
+    /** The trunk has 9 at path 1, change 3 is under test; change 1, which is open, goes from 5 to 7 there. */
+    static GatedTrunk fromFiveToSeven(int batch) {
+        GatedTrunk x = new GatedTrunk(0, batch, 0, 1);
+        queued(x, 1, 5);
+        run(x, 0, 0, true);
+        opened(x, 1, 7);
+        queued(x, 1, 9);
+        run(x, 0, 0, true);
+        x.enqueue(x.open());
+        return x;
+    }
+
     static void ticks(GatedTrunk x, int times) {
         for (int i = 0; i < times; i++) {
             Check.due("tick(1)", 0, x.tick(1));

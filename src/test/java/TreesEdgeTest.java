@@ -195,13 +195,7 @@ public final class TreesEdgeTest extends Steps {
 
     private static void noConflictAsItIsByThen() {
         Check.part("queue: one that conflicts with the trunk, but not with the tree as it is by then");
-        GatedTrunk x = new GatedTrunk(0, 2, 0, 1);
-        queued(x, 1, 5);
-        run(x, 0, 0, true);
-        opened(x, 1, 7);
-        queued(x, 1, 9);
-        run(x, 0, 0, true);
-        x.enqueue(x.open());
+        GatedTrunk x = fromFiveToSeven(2);
         queued(x, 1, 5);
         // From 5 to 7, where the trunk has 9.
         x.enqueue(1);
